@@ -105,7 +105,7 @@ public final class TurnedKeys {
         }
         int given = terms.give(end.base) + terms.give(end.root) + terms.give(end.mine);
         given += terms.give(end.theirs) + terms.give(end.sendChain) + terms.give(end.receiveChain);
-        for (int i = 0; i < end.left; i++) {
+        for (int i = 0; i < end.leftCount; i++) {
             LeftKey leftKey = end.leftKeys[i];
             if (leftKey != null) {
                 given += terms.give(leftKey.publicKey) + terms.give(leftKey.key);
@@ -145,7 +145,7 @@ public final class TurnedKeys {
             case 2:
                 return end.next;
             case 3:
-                return end.left;
+                return end.leftCount;
             case 4:
                 return oneIf(end.theirs != null);
             case 5:
@@ -382,7 +382,7 @@ public final class TurnedKeys {
         Term receiveChain;
         int next;
         final LeftKey[] leftKeys = new LeftKey[LEFT_LIMIT];
-        int left;
+        int leftCount;
 
         End(Term base, Term root, Term mine) {
             this.base = base;
@@ -409,7 +409,7 @@ public final class TurnedKeys {
             for (int i = 0; i < LEFT_LIMIT; i++) {
                 leftKeys[i] = other.leftKeys[i];
             }
-            left = other.left;
+            leftCount = other.leftCount;
         }
 
         void turnSending(Terms terms) {
@@ -474,15 +474,15 @@ public final class TurnedKeys {
         }
 
         private void leave(LeftKey leftKey) {
-            if (left >= LEFT_LIMIT) {
+            if (leftCount >= LEFT_LIMIT) {
                 dropLeftKey(0);
             }
-            leftKeys[left] = leftKey;
-            left++;
+            leftKeys[leftCount] = leftKey;
+            leftCount++;
         }
 
         private Term pulledLeftKey(Term publicKey, int index) {
-            for (int i = 0; i < left; i++) {
+            for (int i = 0; i < leftCount; i++) {
                 LeftKey leftKey = leftKeys[i];
                 if (leftKey != null && leftKey.publicKey == publicKey && leftKey.index == index) {
                     dropLeftKey(i);
@@ -493,11 +493,11 @@ public final class TurnedKeys {
         }
 
         private void dropLeftKey(int at) {
-            for (int i = at; i + 1 < left; i++) {
+            for (int i = at; i + 1 < leftCount; i++) {
                 leftKeys[i] = leftKeys[i + 1];
             }
-            left--;
-            leftKeys[left] = null;
+            leftCount--;
+            leftKeys[leftCount] = null;
         }
     }
 }
